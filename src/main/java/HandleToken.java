@@ -190,6 +190,7 @@ public final class HandleToken {
         if (loggedIn != OFFICER) {
             return LOGIN;
         }
+        // Kept as the document names it, though no read-only session is open beside the officer.
         if (isFixedFor(s, row)) {
             return READ_ONLY;
         }

@@ -136,9 +136,11 @@ public final class MakingTest {
         Due.is("the fourth has its attributes", token.attributes(0, 4), Due.SIGN + Due.TOKEN);
         Due.is("the TOKEN object", token.destroy(0, 4), 0);
         Due.is("the handle is not used again", token.create(0, 0, 0), 5);
+        token.create(1, 0, 106);
         token.destroy(0, 1);
         token.close(0);
-        Due.is("owners went with their objects", token.status(4), 0);
+        Due.is("the others keep their owners", token.find(1, 0), 6);
+        Due.is("no more", token.status(4), 1);
     }
 
     private static void promise9Refusals() {
