@@ -19,20 +19,34 @@ final class Due {
 
     private static int wrong = 0;
     private static int looked = 0;
+    private static String sentence = "";
 
     private Due() {
+    }
+
+    /** The document's own words: those that are broken if one of the answers looked at next is not as due. */
+    static void sentence(String words) {
+        sentence = " [" + words + "]";
     }
 
     static void is(String what, long got, long due) {
         looked++;
         if (got != due) {
             wrong++;
-            System.out.println(what + " answered " + got + ", due is " + due);
+            System.out.println(what + " answered " + got + ", due is " + due + sentence);
         }
     }
 
     static void holds(String what, boolean right) {
         is(what, right ? 1 : 0, 1);
+    }
+
+    static void text(String what, String got, String due) {
+        looked++;
+        if (!got.equals(due)) {
+            wrong++;
+            System.out.println(what + " went on as\n" + got + "due is\n" + due + sentence);
+        }
     }
 
     static void end() {
