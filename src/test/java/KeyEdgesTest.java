@@ -18,6 +18,7 @@ public final class KeyEdgesTest {
         attributesOfAnObject();
         limitSensitive();
         limitTakesAway();
+        limitTakesNothingElse();
         limitWhatItHasNot();
         limitOtherBits();
         limitAlwaysAndNever();
@@ -241,6 +242,20 @@ public final class KeyEdgesTest {
                 Due.is(kind + " limited by " + mask, token.limit(0, 1, mask), due);
                 Due.is(kind + " after " + mask, token.attributes(0, 1), due);
             }
+        }
+    }
+
+    private static void limitTakesNothingElse() {
+        Due.sentence("and takes the attribute EXTRACTABLE and those uses away whose bits mask has");
+        int stay = Due.TOKEN | Due.PRIVATE | Due.SENSITIVE | Due.LOCAL | Due.ALWAYS | Due.NEVER;
+        HandleToken token = Due.withUser();
+        token.generate(0, Due.TOKEN | Due.PRIVATE | Due.SENSITIVE | Due.WRAP | Due.UNWRAP);
+        Due.is("PRIVATE, too, stays", token.limit(0, 1, ALL_TAKEN), stay);
+        for (int mask = 4; mask <= ALL_TAKEN; mask += 4) {
+            HandleToken officers = World.officer();
+            officers.limit(0, World.WRAPS, mask);
+            int left = officers.attributes(0, World.WRAPS) & (Due.TOKEN | Due.TRUSTED);
+            Due.is("TRUSTED after " + mask, left, Due.TOKEN | Due.TRUSTED);
         }
     }
 

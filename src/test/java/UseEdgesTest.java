@@ -20,6 +20,7 @@ public final class UseEdgesTest {
         unwrapTheUpperBits();
         unwrapUnderAnotherKey();
         unwrapTheAttributesGiven();
+        unwrapTakesNothingOfBy();
         unwrapOwnedBySession();
         unwrapMayNot();
         unwrapPrivateAndToken();
@@ -231,6 +232,25 @@ public final class UseEdgesTest {
         Due.is("the wrapped one is as it was", token.attributes(0, h), 8 + 4 + 64 + 1024 + 2048);
         Due.is("by is as it was", token.attributes(0, World.UNWRAPS), 1 + 256);
         Due.is("one that was SENSITIVE is read now", token.read(0, h + 1), Words.unsigned(Words.mac(1, 1234567)));
+    }
+
+    private static void unwrapTakesNothingOfBy() {
+        Due.sentence("with the attributes given (no others) and the value v: its handle.");
+        for (int kind = Due.UNWRAP; kind <= 511; kind++) {
+            if (good(kind)) {
+                HandleToken token = with(kind, World.KEY);
+                token.unwrap(0, 1, BLOB, 0);
+                Due.is("none, by " + kind, token.attributes(0, 2), 0);
+                token.unwrap(0, 1, BLOB, Due.SENSITIVE | Due.SIGN);
+                Due.is("two, by " + kind, token.attributes(0, 3), Due.SENSITIVE | Due.SIGN);
+                Due.is("by " + kind + " is as it was", token.attributes(0, 1), kind);
+            }
+        }
+        HandleToken token = Due.withUser();
+        int by = token.generate(0, Due.TOKEN | Due.PRIVATE | Due.SENSITIVE | Due.UNWRAP);
+        int value = Words.mac(0, 1234567);
+        token.unwrap(0, by, Words.blob(value, 9), 0);
+        Due.is("by a generated one", token.attributes(0, 2), 0);
     }
 
     private static void unwrapOwnedBySession() {
